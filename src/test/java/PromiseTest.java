@@ -96,6 +96,12 @@ public final class PromiseTest {
         due(3, "still open", x.count(1), 7);
         due(3, "its WRITE can be undone", x.undo(), 7);
         due(3, "BYTES", x.bytes(NONE), 49);
+        x = fileOf(row(0, PAGE, 1, 1, PAGE, 1, 2, PAGE, 1));
+        x.undo();
+        due(3, "how many are CLOSED, not WRITES", x.close(), 1);
+        due(3, "the closing where BYTES were undone", x.bytes(10), 0);
+        due(3, "the closing where BYTES were undone", x.bytes(11), 0);
+        due(3, "behind the closing", x.bytes(12), BAD);
     }
 
     private static void undo() {
@@ -520,6 +526,15 @@ public final class PromiseTest {
         for (int what = 0; what < 3; what++) {
             due(20, "none", x.first(what), NONE);
         }
+        x = fileOf(row(9, SEAL, 0), row(9, SEAL, 1));
+        due(20, "WRITE 0", x.first(2), 0);
+        due(20, "its own THING", x.first(1), 9);
+        x.undo();
+        due(20, "none any more", x.first(0), NONE);
+        x = fileOf(row(1, PAGE, 1), row(9, SEAL, 0, 2, PAGE, 1), row());
+        due(20, "none in the REVISION of the SEAL", x.first(0), NONE);
+        x = fileOf(row(1, PAGE, 1), row(2, PAGE, 1), row(3, PAGE, 1, 9, SEAL, 0));
+        due(20, "no CLOSED SEAL", x.first(0), NONE);
         due(20, "what 3", x.first(3), BAD);
         due(20, "what -1", x.first(-1), BAD);
     }
@@ -534,6 +549,14 @@ public final class PromiseTest {
         x.alter(0, 2);
         due(21, "all have FLAWS", x.holding(0), 0);
         due(21, "SEALS", x.holding(1), 3);
+        x = fileOf(row(9, SEAL, 0), row());
+        due(21, "WRITE 0 HOLDS", x.holding(0), 1);
+        due(21, "WRITE 0 is a SEAL", x.holding(1), 1);
+        x = fileOf(row(1, PAGE, 1, 9, SEAL, 0));
+        x.undo();
+        x.close();
+        due(21, "an undone SEAL does not HOLD", x.holding(0), 0);
+        due(21, "an undone SEAL is none", x.holding(1), 0);
         due(21, "what 2", x.holding(2), BAD);
         due(21, "what -1", x.holding(-1), BAD);
     }
@@ -569,6 +592,15 @@ public final class PromiseTest {
         x = fileOf(row(2, NOTE, 5, 9, SEAL, 2), row(2, NOTE, 6));
         due(22, "not THERE behind the SEAL then", x.better(0), 0);
         due(22, "not THERE behind the SEAL then", x.better(1), 1);
+        x = fileOf(row(9, SEAL, 2), row(1, PAGE, 1, 2, PAGE, 1));
+        due(22, "one is not enough", x.better(0), 0);
+        due(22, "one is not enough", x.better(1), 0);
+        x = fileOf(row(1, FIELD, 1, 9, SEAL, 1), row(8, SEAL, 0), row(1, FIELD, 2, 2, NOTE, 1));
+        due(22, "the one by which the lower LEVEL stays broken", x.better(0), 4);
+        due(22, "one of two HOLDS", x.better(1), 1);
+        x = fileOf(row(1, FIELD, 1, 9, SEAL, 1), row(8, SEAL, 0), row(1, FIELD, 2));
+        due(22, "both HOLD", x.better(0), 3);
+        due(22, "both HOLD", x.better(1), 2);
     }
 
     private static void sheet() {
@@ -733,6 +765,8 @@ public final class PromiseTest {
         x.undo();
         x.undo();
         due(29, "HOLD", x.count(4), 1);
+        due(29, "WRITE 0 HOLDS", fileOf(row(9, SEAL, 0), row()).count(4), 1);
+        due(29, "SHADOWED in REVISION 0", fileOf(row(9, NOTE, 0, 9, NOTE, 1), row()).count(6), 1);
         due(29, "THERE", x.count(5), 4);
         due(29, "SHADOWED", x.count(6), 1);
         x.lose(0);
@@ -790,8 +824,11 @@ public final class PromiseTest {
         due(30, "it finds nothing itself", x.count(8), 1);
         x.alter(0, 2);
         due(30, "altered", x.digest() == is ? 1 : 0, 0);
+        due(30, "altered", x.digest(), digestOf(x));
         x.alter(0, 1);
         due(30, "altered back", x.digest(), is);
+        x = fileOf(row(1, FIELD, 1, 9, SEAL, 1), row(8, SEAL, 0), row(1, FIELD, 2));
+        due(30, "better 3 of 2", x.digest(), digestOf(x));
     }
 
     public static void main(String[] args) {
