@@ -7,7 +7,7 @@ import java.util.List;
  * every answer out anew, word by word. Every answer must be the same.
  */
 public final class ModelTest {
-    private static final int RUNS = 200, ACTS = 250, LEAST = Integer.MIN_VALUE;
+    private static final int RUNS = 200, ACTS = 250, MOST_CALLS = 512, MOST_OF_AN_ACT = 5, LEAST = Integer.MIN_VALUE;
     private static int wrong = 0;
 
     /** One WRITE, with what was told of it. */
@@ -517,6 +517,7 @@ public final class ModelTest {
         final Model m = new Model();
         final int things, puts;
         final StringBuilder told = new StringBuilder();
+        int calls = 0;
 
         Run(int seed) {
             this.seed = seed;
@@ -549,6 +550,7 @@ public final class ModelTest {
         }
 
         void due(String call, long got, long want) {
+            calls++;
             told.append(call).append(" = ").append(want).append('\n');
             if (got != want) {
                 wrong++;
@@ -646,7 +648,7 @@ public final class ModelTest {
 
         void sheetsAreAlike() {
             for (int s = 0; s < 4; s++) {
-                for (int i = 0; m.sheets[s] != null && i < m.length(s); i++) {
+                for (int i = 0; m.sheets[s] != null && i < m.length(s) && calls < MOST_CALLS; i++) {
                     due("get(" + s + ", " + m.form(s) + ", " + i + ")", x.get(s, m.form(s), i), m.item(s, i));
                 }
             }
@@ -656,7 +658,7 @@ public final class ModelTest {
     public static void main(String[] args) {
         for (int seed = 0; seed < RUNS && wrong == 0; seed++) {
             Run run = new Run(seed);
-            for (int c = 0; c < ACTS && wrong == 0; c++) {
+            for (int c = 0; c < ACTS && wrong == 0 && run.calls + MOST_OF_AN_ACT <= MOST_CALLS; c++) {
                 run.act();
                 if (c % 10 == 9) run.due("digest()", run.x.digest(), run.m.digest());
             }
