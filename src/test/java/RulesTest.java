@@ -1,4 +1,5 @@
 import java.io.IOException;
+import java.lang.management.ManagementFactory;
 import java.lang.reflect.Constructor;
 import java.lang.reflect.Field;
 import java.lang.reflect.Method;
@@ -22,6 +23,7 @@ public final class RulesTest {
         "write 2", "revision 2", "bytes 1", "thing 3", "shadows 1", "covers 2", "covered 1", "number 2", "flaws 1",
         "judge 2", "change 3", "allowed 1", "first 1", "holding 1", "better 1", "sheet 3", "lose 1", "lay 4", "get 3",
         "copy 5", "tell 2", "count 1", "digest 0");
+    private static final long ROOM_ELEMENTS = 7_300_000;
     private static int wrong = 0;
 
     private static void must(boolean right, String rule) {
@@ -68,41 +70,57 @@ public final class RulesTest {
     }
 
     private static void noOtherHasName(Class<?> c, Set<String> names) {
+        noPrivateHasName(c, names);
+        for (Class<?> inside : c.getDeclaredClasses()) {
+            must(Modifier.isStatic(inside.getModifiers()), inside + " is static");
+            noPrivateHasName(inside, names);
+        }
+        must(c.getDeclaredClasses().length <= 12, "at most twelve classes");
+    }
+
+    private static void noPrivateHasName(Class<?> c, Set<String> names) {
         for (Method m : c.getDeclaredMethods()) {
             must(!Modifier.isPrivate(m.getModifiers()) || !names.contains(m.getName()), m + " has a name of its own");
         }
-        for (Class<?> inside : c.getDeclaredClasses()) {
-            must(Modifier.isStatic(inside.getModifiers()), inside + " is static");
-            for (Method m : inside.getDeclaredMethods()) {
-                must(!names.contains(m.getName()), m + " has a name of its own");
-            }
-        }
-        must(c.getDeclaredClasses().length <= 12, "at most twelve classes");
     }
 
     private static void words() throws IOException {
         String code = code();
         for (String word : List.of("throw", "throws", "try", "catch", "finally", "synchronized", "assert", "package",
-            "protected", "System.out", "Random", "Thread", "hashCode", "toString", "double", "float")) {
+            "protected", "System.out", "Random", "Thread", "hashCode")) {
             must(!Pattern.compile("\\b" + Pattern.quote(word) + "\\b").matcher(code).find(), "no " + word);
         }
-        must(!code.contains("->") && !code.contains("::"), "no lambda, no method reference");
+        for (String line : code.split("\n")) {
+            boolean ofSwitch = line.matches("\\s*(case .*|default) ->.*");
+            must(ofSwitch || !line.contains("->"), "no lambda: " + line.trim());
+        }
+        must(!code.contains("::"), "no method reference");
         must(!code.contains("Exact("), "no function whose name ends in Exact");
         must(code.chars().allMatch(ch -> ch < 128), "plain signs alone");
+        library(code);
+    }
+
+    private static void library(String code) {
+        Set<String> known = Set.of("java.util.Arrays", "java.util.ArrayList", "java.util.List", "java.util.Iterator");
         Matcher imports = Pattern.compile("import ([^;]+);").matcher(code);
-        while (imports.find()) must(imports.group(1).equals("java.util.Arrays"), "no import of " + imports.group(1));
-        Matcher calls = Pattern.compile("\\b(Arrays|System|Math|Integer|Long)\\.(\\w+)").matcher(code);
-        Set<String> allowed = Set.of("Arrays.fill", "System.arraycopy", "Math.max", "Math.min", "Integer.bitCount");
+        while (imports.find()) must(known.contains(imports.group(1)), "no import of " + imports.group(1));
+        Set<String> allowed = Set.of("Arrays.copyOf", "Arrays.copyOfRange", "Arrays.fill", "System.arraycopy");
+        Matcher calls = Pattern.compile("\\b(Arrays|System)\\.(\\w+)").matcher(code);
         while (calls.find()) must(allowed.contains(calls.group()), "no call of " + calls.group());
     }
 
-    /** Rows are made with the object, so a call makes nothing: the room that all calls live in stays. */
-    private static void nothingMadeByCalls() throws IOException {
-        for (String line : code().split("\n")) {
-            if (!Pattern.compile("\\bnew\\b").matcher(line).find()) continue;
-            boolean field = line.matches(" +(private )?final [\\w\\[\\]]+ \\w+ = new .*");
-            must(field || line.trim().equals("sheets[s] = new Sheet();"), "made with the object: " + line.trim());
+    /** The dearest call, as often as an object may be asked: what it makes must fit into the room of a whole run. */
+    private static void callsMakeLittle() {
+        if (!(ManagementFactory.getThreadMXBean() instanceof com.sun.management.ThreadMXBean bean)) return;
+        SealedFile x = new SealedFile();
+        for (int n = 1; n <= 40; n++) {
+            x.put(n % 16, n % 6, n % 3);
+            if (n % 5 == 0) x.close();
         }
+        long id = Thread.currentThread().getId(), before = bean.getThreadAllocatedBytes(id);
+        for (int call = 48; call <= 512; call++) x.digest();
+        long made = bean.getThreadAllocatedBytes(id) - before;
+        must(made < ROOM_ELEMENTS * Integer.BYTES, "calls make little, not " + made + " bytes");
     }
 
     private static void shortMethods() throws IOException {
@@ -122,7 +140,7 @@ public final class RulesTest {
     public static void main(String[] args) throws IOException {
         face();
         words();
-        nothingMadeByCalls();
+        callsMakeLittle();
         shortMethods();
         System.out.println(wrong == 0 ? "all rules are kept" : wrong + " rules are not kept");
         if (wrong != 0) System.exit(1);

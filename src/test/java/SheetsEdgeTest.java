@@ -2,6 +2,7 @@ import java.math.BigInteger;
 
 /** The boundary cases of SHEETS and FINDINGS in "Terms", and of promises 23 to 30. */
 public final class SheetsEdgeTest extends EdgeCase {
+    private static final int SAME = 0;
     private static final int[] NO_SHEET = {-1, 4, 5, LEAST, MOST};
     private static final int[] NO_FORM = {-1, 3, 4, LEAST, MOST};
 
@@ -635,6 +636,14 @@ public final class SheetsEdgeTest extends EdgeCase {
         for (SealedFile x : new SealedFile[] {two, three, eight}) {
             due("as it is told", x.digest(), digestOf(x));
         }
+    }
+
+    static void digestHasBothNumbers() {
+        says("covered(), number() 0, 1, flaws()");
+        SealedFile x = fileOf(row(1, PAGE, 1, 9, SEAL, 1), row());
+        x.alter(0, 2);
+        due("as it is and as it was KEPT", x.number(1, 0) == x.number(1, 1) ? SAME : 1, 1);
+        due("in this order", x.digest(), digestOf(x));
     }
 
     static void digestHasRevisions0To7() {

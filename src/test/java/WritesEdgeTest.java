@@ -111,6 +111,18 @@ public final class WritesEdgeTest extends EdgeCase {
         }
     }
 
+    static void closeWritesItsBytesOverUndoneOnes() {
+        says("The open REVISION is CLOSED");
+        SealedFile x = fileOf(row(15, GONE, 65535, 15, GONE, 65535), row(15, GONE, 65535, 15, GONE, 65535));
+        x.undo();
+        due("close", x.close(), 2);
+        int[] want = {79, 15, 5, 255, 255, 79, 15, 5, 255, 255, 0, 0, 79, 15, 5, 255, 255, 0, 1};
+        for (int i = 0; i < want.length; i++) {
+            due("BYTE " + i, x.bytes(i), want[i]);
+        }
+        due("no more", x.bytes(want.length), BAD);
+    }
+
     static void closeOfNoWritesIsNot() {
         says("NOT: it has no WRITES");
         SealedFile x = new SealedFile();
@@ -169,6 +181,23 @@ public final class WritesEdgeTest extends EdgeCase {
         due("one in the open one", x.undo(), 2);
         due("none in the open one", x.undo(), NOT);
         due("as behind the CLOSED one", x.thing(0, 1, 1), 2);
+    }
+
+    static void undoUndoesChanges() {
+        says("The last WRITE is undone");
+        SealedFile x = fileOf(row(2, FIELD, 1, 9, SEAL, 0), row(1, NOTE, 1));
+        due("a CHANGE", x.first(1), 1);
+        x.undo();
+        due("none any more", x.first(1), NONE);
+        due("none any more", x.judge(1, 1), 0);
+        due("HOLDS again", x.judge(1, 3), 1);
+        x.put(2, FIELD, 2);
+        x.put(3, SEAL, 1);
+        due("two CHANGES", x.judge(1, 1), 2);
+        x.undo();
+        due("one is left", x.change(1, 0, 1), 2);
+        due("one is left", x.change(1, 1, 1), NONE);
+        due("THERE", x.count(5), 2);
     }
 
     static void undoForgetsWhatWasTold() {
@@ -397,6 +426,27 @@ public final class WritesEdgeTest extends EdgeCase {
         due("one more", x.read(0), 1);
         due("WRITES", x.count(0), 40);
         due("it is the first", x.write(39, 0), 1);
+    }
+
+    static void whatWasReadIsToldAtOnce() {
+        says("WRITES from a SHEET: its items, three for each");
+        SealedFile x = fileOf(row(9, SEAL, 2), row());
+        lay(x, 0, INTS, 1, NOTE, 1, 1, NOTE, 2);
+        due("two", x.read(0), 2);
+        due("what THING 1 is", x.thing(1, 1, 1), 2);
+        due("SHADOWED", x.shadows(1), 2);
+        due("VERDICT", x.judge(0, 0), 3);
+        due("CHANGES", x.judge(0, 1), 1);
+        due("FIRST", x.first(1), 1);
+        due("its BYTES", x.bytes(NONE), 17);
+        due("BETTER", x.better(0), 1);
+        x = fileOf(row(9, SEAL, 2));
+        x.cover(0, 0, 0, 5, 400);
+        x.close();
+        lay(x, 0, INTS, 1, NOTE, 1);
+        due("FLAWS ahead of it", x.flaws(0), 4);
+        due("one", x.read(0), 1);
+        due("FLAWS behind it: its BYTES are COVERED", x.flaws(0), 12);
     }
 
     static void readOfBytesAndShortsBelow0() {
