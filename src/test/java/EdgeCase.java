@@ -16,9 +16,12 @@ class EdgeCase {
     static final int PAGE = 0, FIELD = 1, NOTE = 2, LIST = 3, SEAL = 4, GONE = 5;
     static final int BYTES = 0, SHORTS = 1, INTS = 2;
 
+    // far more than a test needs: a call that does not end is told, not waited for
+    private static final long MOST_MILLISECONDS = 120_000;
+
     private static int wrong = 0;
     private static int asked = 0;
-    private static String sentence = null;
+    private static volatile String sentence = null;
 
     static void says(String text) {
         sentence = text;
@@ -38,6 +41,7 @@ class EdgeCase {
 
     /** Every method of the test is run, so none is forgotten; one that asks nothing is wrong. */
     static void runAll(Class<?> test) throws IllegalAccessException {
+        watch();
         Method[] methods = test.getDeclaredMethods();
         Arrays.sort(methods, Comparator.comparing(Method::getName));
         for (Method m : methods) {
@@ -51,6 +55,20 @@ class EdgeCase {
         if (wrong != 0) {
             System.exit(1);
         }
+    }
+
+    static void watch() {
+        Thread watcher = new Thread(() -> {
+            try {
+                Thread.sleep(MOST_MILLISECONDS);
+            } catch (InterruptedException e) {
+                return;
+            }
+            System.out.println((sentence == null ? "" : "\"" + sentence + "\": ") + "a call does not end");
+            Runtime.getRuntime().halt(1);
+        });
+        watcher.setDaemon(true);
+        watcher.start();
     }
 
     private static void runOne(Method m) throws IllegalAccessException {

@@ -656,6 +656,7 @@ public final class ModelTest {
     }
 
     public static void main(String[] args) {
+        EdgeCase.watch();
         for (int seed = 0; seed < RUNS && wrong == 0; seed++) {
             Run run = new Run(seed);
             for (int c = 0; c < ACTS && wrong == 0 && run.calls + MOST_OF_AN_ACT <= MOST_CALLS; c++) {

@@ -835,6 +835,7 @@ public final class PromiseTest {
     }
 
     public static void main(String[] args) {
+        EdgeCase.watch();
         newObject();
         put();
         close();
